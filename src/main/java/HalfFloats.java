@@ -23,8 +23,8 @@ public final class HalfFloats {
     private static final long LOW_HALF = 0xFFFFFFFFL;
 
     private final Format[] formats;
-    private final Row slopes;
-    private final Row weights;
+    private final Row rowX;
+    private final Row rowY;
     private final Exact exact;
     private final Rounder rounder;
     private final int[] tree;
@@ -36,8 +36,8 @@ public final class HalfFloats {
         formats = new Format[] {
             new Format(5, 10, 0), new Format(8, 7, 0), new Format(8, 23, 0), new Format(4, 3, 1)
         };
-        slopes = new Row(0);
-        weights = new Row(2);
+        rowX = new Row(0);
+        rowY = new Row(2);
         exact = new Exact();
         rounder = new Rounder();
         tree = new int[ROW_LIMIT];
@@ -50,7 +50,7 @@ public final class HalfFloats {
         if (!isFormat(k) || e < 2 || e > 8 || f < 1 || f > 23 || kind < 0 || kind >= KINDS) {
             return BAD;
         }
-        if (slopes.uses(k) || weights.uses(k)) {
+        if (rowX.uses(k) || rowY.uses(k)) {
             return BAD;
         }
         formats[k].become(e, f, kind);
@@ -177,10 +177,10 @@ public final class HalfFloats {
 
     public int count(int what) {
         switch (what) {
-            case 0: return slopes.size;
-            case 1: return weights.size;
-            case 2: return slopes.format;
-            case 3: return weights.format;
+            case 0: return rowX.size;
+            case 1: return rowY.size;
+            case 2: return rowX.format;
+            case 3: return rowY.format;
             case 4: return shift;
             case 5: return streak;
             case 6: return goal;
@@ -215,11 +215,11 @@ public final class HalfFloats {
     }
 
     public long element(int e, int i) {
-        if (!isFormat(e) || !slopes.has(i)) {
+        if (!isFormat(e) || !rowX.has(i)) {
             return BAD;
         }
         int down = -blockScale(formats[e]);
-        return bits(rounder.turned(formats[slopes.format], slopes.patterns[i], down, formats[e], TO_EVEN));
+        return bits(rounder.turned(formats[rowX.format], rowX.patterns[i], down, formats[e], TO_EVEN));
     }
 
     public int scaler(int s, int g) {
@@ -233,7 +233,7 @@ public final class HalfFloats {
     }
 
     public int step(int r) {
-        if (!isPattern(weights.format, r)) {
+        if (!isPattern(rowY.format, r)) {
             return BAD;
         }
         if (slopesBroke()) {
@@ -241,9 +241,9 @@ public final class HalfFloats {
             streak = 0;
             return 0;
         }
-        int length = Math.min(slopes.size, weights.size);
+        int length = Math.min(rowX.size, rowY.size);
         for (int i = 0; i < length; i++) {
-            weights.patterns[i] = stepped(weights.patterns[i], r, slopes.patterns[i]);
+            rowY.patterns[i] = stepped(rowY.patterns[i], r, rowX.patterns[i]);
         }
         streak++;
         if (streak >= goal) {
@@ -289,7 +289,7 @@ public final class HalfFloats {
     }
 
     private Row rowOf(int r) {
-        return r == 0 ? slopes : weights;
+        return r == 0 ? rowX : rowY;
     }
 
     private static long bits(int pattern) {
@@ -348,7 +348,7 @@ public final class HalfFloats {
     }
 
     private int productsAtOnce(Format answer, int way) {
-        int length = Math.min(slopes.size, weights.size);
+        int length = Math.min(rowX.size, rowY.size);
         exact.begin();
         for (int i = 0; i < length; i++) {
             addProductAt(i);
@@ -357,7 +357,7 @@ public final class HalfFloats {
     }
 
     private int productsInPieces(int c, Format accumulator, Format answer, int way) {
-        int length = Math.min(slopes.size, weights.size);
+        int length = Math.min(rowX.size, rowY.size);
         int total = 0;
         for (int from = 0; from < length; from += c) {
             int piece = 0;
@@ -373,14 +373,14 @@ public final class HalfFloats {
     }
 
     private void addProductAt(int i) {
-        exact.addProduct(formats[slopes.format], slopes.patterns[i], formats[weights.format], weights.patterns[i]);
+        exact.addProduct(formats[rowX.format], rowX.patterns[i], formats[rowY.format], rowY.patterns[i]);
     }
 
     private int blockScale(Format elements) {
-        Format from = formats[slopes.format];
+        Format from = formats[rowX.format];
         int greatest = 0;
-        for (int i = 0; i < slopes.size; i++) {
-            int a = slopes.patterns[i];
+        for (int i = 0; i < rowX.size; i++) {
+            int a = rowX.patterns[i];
             if (from.sortOf(a) < INFINITE) {
                 // patterns without their signs stand in the order of their values
                 greatest = Math.max(greatest, from.unsigned(a));
@@ -390,9 +390,9 @@ public final class HalfFloats {
     }
 
     private boolean slopesBroke() {
-        Format from = formats[slopes.format];
-        for (int i = 0; i < slopes.size; i++) {
-            if (from.sortOf(slopes.patterns[i]) >= INFINITE) {
+        Format from = formats[rowX.format];
+        for (int i = 0; i < rowX.size; i++) {
+            if (from.sortOf(rowX.patterns[i]) >= INFINITE) {
                 return true;
             }
         }
@@ -400,8 +400,8 @@ public final class HalfFloats {
     }
 
     private int stepped(int weight, int rate, int slope) {
-        Format form = formats[weights.format];
-        int unscaled = rounder.turned(formats[slopes.format], slope, -shift, form, TO_EVEN);
+        Format form = formats[rowY.format];
+        int unscaled = rounder.turned(formats[rowX.format], slope, -shift, form, TO_EVEN);
         exact.begin();
         exact.addProduct(form, form.turnedOver(rate), form, unscaled);
         int change = rounder.rounded(exact, form, TO_EVEN);
@@ -430,8 +430,8 @@ public final class HalfFloats {
         /** The power of 2 by which FRAC counts where EXP is 0. */
         int leastPower;
 
-        Format(int e, int f, int sort) {
-            become(e, f, sort);
+        Format(int e, int f, int newKind) {
+            become(e, f, newKind);
         }
 
         void become(int e, int f, int newKind) {
@@ -620,6 +620,7 @@ public final class HalfFloats {
         private void spread(boolean below, long termWhole, int termPower) {
             int place = termPower - LOWEST;
             int limb = place >> 5;
+            // never so with the widths that FORMATS can have
             if (limb < 0 || limb + 2 >= LIMBS) {
                 return;
             }
