@@ -369,7 +369,8 @@ final class Model {
             List<Integer> next = new ArrayList<>();
             for (int i = 0; i < level.size(); i += 2) {
                 boolean alone = i + 1 == level.size();
-                next.add(alone ? level.get(i) : (Integer) total(n, way, term(n, level.get(i)), term(n, level.get(i + 1))));
+                int first = level.get(i);
+                next.add(alone ? first : total(n, way, term(n, first), term(n, level.get(i + 1))));
             }
             level = next;
         }

@@ -197,7 +197,8 @@ public final class RowsTest {
     }
 
     private static void sumsOfZeros() {
-        HalfFloats x = rows(0, new int[] {MINUS_ZERO, MINUS_ZERO, MINUS_ZERO}, 0, new int[] {MINUS_ZERO, 0, MINUS_ZERO});
+        int[] alike = {MINUS_ZERO, MINUS_ZERO, MINUS_ZERO};
+        HalfFloats x = rows(0, alike, 0, new int[] {MINUS_ZERO, 0, MINUS_ZERO});
         HalfFloats y = rows(0, new int[] {ONE, 0xBC00, MINUS_ZERO}, 0, new int[] {MINUS_ZERO, ONE, 0xBC00});
         for (int how = 0; how < 3; how++) {
             for (int way = 0; way < 6; way++) {
