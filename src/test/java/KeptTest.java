@@ -89,16 +89,22 @@ public final class KeptTest {
         int[][] pairs = {{4, 3, 1, 5, 2, 0}, {5, 2, 0, 4, 3, 1}, {3, 4, 2, 4, 3, 2}, {6, 5, 0, 5, 6, 1}};
         for (int[] p : pairs) {
             for (int way = 0; way < 5; way++) {
-                HalfFloats x = new HalfFloats();
-                x.format(3, p[0], p[1], p[2]);
-                x.format(1, p[3], p[4], p[5]);
                 int same = 0;
                 for (int a = 0; a < 2 << (p[0] + p[1]); a++) {
+                    HalfFloats x = ofPair(p);
                     boolean number = x.part(3, a, 0) != 4;
                     same += number && x.turn(1, (int) x.turn(3, a, 1, way), 3, way) == a ? 1 : 0;
                 }
-                CHECK.due("kept in WAY " + way, x.kept(3, 1, way), same);
+                CHECK.due("kept in WAY " + way, ofPair(p).kept(3, 1, way), same);
             }
         }
+    }
+
+    /** A new one for each PATTERN: an object is good for 512 calls. */
+    private static HalfFloats ofPair(int[] p) {
+        HalfFloats x = new HalfFloats();
+        x.format(3, p[0], p[1], p[2]);
+        x.format(1, p[3], p[4], p[5]);
+        return x;
     }
 }

@@ -4,13 +4,15 @@ import java.util.Random;
 /** All promises: the same drawn runs of calls go to the class and to the model, and each answer must be alike. */
 public final class RandomRunsTest {
     private static final int RUNS = 3000;
-    private static final int CALLS = 250;
+    /** With the longest move and the look at the end these are fewer than the 512 that an object is good for. */
+    private static final int CALLS = 430;
 
     private final Check check;
     private final Random random;
     private final HalfFloats real = new HalfFloats();
     private final Model model = new Model();
     private final int run;
+    private int calls = 0;
 
     private RandomRunsTest(Check check, int run) {
         this.check = check;
@@ -27,7 +29,7 @@ public final class RandomRunsTest {
     }
 
     private void play() {
-        for (int i = 0; i < CALLS; i++) {
+        for (int moves = 0; moves < CALLS && calls < CALLS; moves++) {
             call();
         }
         for (int what = 0; what < 7; what++) {
@@ -38,9 +40,11 @@ public final class RandomRunsTest {
         }
         due("flags", real.flags(), model.flags());
         due("seed", real.seed(1), model.seed(1), 1);
+        check.holds("no more than 512 calls", calls <= 512);
     }
 
     private void due(String name, long got, long want, int... args) {
+        calls++;
         check.due("run " + run + " " + name + Arrays.toString(args), got, want);
     }
 

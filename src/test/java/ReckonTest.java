@@ -242,9 +242,9 @@ public final class ReckonTest {
 
     /** Java's own float is FORMAT 2 in WAY 0, with the same NAN. */
     private static void asTheMachineReckons() {
-        HalfFloats x = new HalfFloats();
         Random random = new Random(11);
         for (int i = 0; i < 30000; i++) {
+            HalfFloats x = new HalfFloats();
             int a = near(random);
             int b = near(random);
             int c = i % 3 == 0 ? (int) bits(-Float.intBitsToFloat(a) * Float.intBitsToFloat(b)) : near(random);

@@ -214,9 +214,9 @@ public final class TurnTest {
 
     /** Java's own float is FORMAT 2: from it, FORMAT 1 is its upper half, rounded. */
     private static void asTheMachineTurns() {
-        HalfFloats x = new HalfFloats();
         java.util.Random random = new java.util.Random(5);
         for (int i = 0; i < 20000; i++) {
+            HalfFloats x = new HalfFloats();
             int a = random.nextInt();
             if (Float.isNaN(Float.intBitsToFloat(a))) {
                 continue;
