@@ -1,3 +1,5 @@
+import java.util.Arrays;
+
 /** The edges that the document's sentences on ROWS, PIECES, BLOCK and STEP name, sentence by sentence. */
 public final class EdgesOfRowsTest {
     private static final Check CHECK = new Check("EdgesOfRowsTest");
@@ -67,7 +69,7 @@ public final class EdgesOfRowsTest {
         a.sum(0, 0, NARROW, 0, 86, 8);
         a.sum(0, 2, NARROW, 0, 84, 8);
         int[] patterns = new int[32];
-        java.util.Arrays.fill(patterns, ONE);
+        Arrays.fill(patterns, ONE);
         patterns[0] = GREAT;
         a.row(0, HALF, patterns);
         a.sum(0, 0, HALF, 0, GREAT, 8);
@@ -162,7 +164,7 @@ public final class EdgesOfRowsTest {
         CHECK.sentence("TREE .. until there is one, of 31 and of 32");
         Asked a = new Asked(CHECK);
         int[] patterns = new int[31];
-        java.util.Arrays.fill(patterns, ONE);
+        Arrays.fill(patterns, ONE);
         patterns[0] = GREAT;
         a.row(0, HALF, patterns);
         // 2048, 2 .. 2, 1; 2050, 4 .. 4, 3; 2054, 8, 8, 7; 2062, 15: a tie, whose even one is 2076
@@ -233,7 +235,7 @@ public final class EdgesOfRowsTest {
         a.dot(5, HALF, SINGLE, 0, Asked.single(2049), 8);
         a.dot(1, HALF, SINGLE, 0, Asked.single(2053), 0);
         int[] full = new int[32];
-        java.util.Arrays.fill(full, ONE);
+        Arrays.fill(full, ONE);
         full[31] = GREAT;
         a.row(0, HALF, full);
         a.rowOf(1, HALF, 32, ONE);

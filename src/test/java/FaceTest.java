@@ -7,6 +7,7 @@ import java.nio.file.Files;
 import java.nio.file.Path;
 import java.util.Set;
 import java.util.TreeSet;
+import java.util.regex.Matcher;
 import java.util.regex.Pattern;
 
 /** The public face, and those rules of the language that can be seen from outside or in the text. */
@@ -24,7 +25,12 @@ public final class FaceTest {
         methods();
         fieldsAndConstructors();
         innerClasses();
+        sizes(HalfFloats.class);
+        for (Class<?> c : HalfFloats.class.getDeclaredClasses()) {
+            sizes(c);
+        }
         text();
+        lengths();
         CHECK.finish();
     }
 
@@ -83,8 +89,38 @@ public final class FaceTest {
         }
     }
 
+    /** Rule 11: seven parameters, twenty fields beside the constants, twelve classes. */
+    private static void sizes(Class<?> c) {
+        for (Method m : c.getDeclaredMethods()) {
+            CHECK.holds(m + " has seven parameters at most", m.getParameterCount() <= 7);
+        }
+        int fields = 0;
+        for (Field f : c.getDeclaredFields()) {
+            fields += Modifier.isStatic(f.getModifiers()) ? 0 : 1;
+        }
+        CHECK.holds(c + " has twenty fields at most", fields <= 20);
+        CHECK.holds(c + " has few classes inside", c.getDeclaredClasses().length < 12);
+    }
+
+    /** Rule 11: a method has some sixty lines at most; it ends where a brace stands below its first letter. */
+    private static void lengths() throws IOException {
+        Pattern head = Pattern.compile("(?m)^( +)[A-Za-z][^;=\n]*\\) \\{\n(?s:(.*?))^\\1\\}");
+        Matcher methods = head.matcher(source());
+        int many = 0;
+        while (methods.find()) {
+            many++;
+            CHECK.holds(methods.group().trim().lines().findFirst().orElse("") + " is short",
+                methods.group(2).lines().count() <= 60);
+        }
+        CHECK.holds("the methods are found", many >= METHODS.size());
+    }
+
+    private static String source() throws IOException {
+        return Files.readString(Path.of("src/main/java/HalfFloats.java"));
+    }
+
     private static void text() throws IOException {
-        String text = Files.readString(Path.of("src/main/java/HalfFloats.java"));
+        String text = source();
         String code = text.replaceAll("(?s)/\\*.*?\\*/", "").replaceAll("//[^\n]*", "");
         String[] words = {"throw", "throws", "try", "catch", "finally", "synchronized", "assert", "package", "native",
             "Object", "Exception", "Random", "System", "Thread", "hashCode", "toString", "protected", "volatile"};
