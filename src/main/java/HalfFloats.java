@@ -359,15 +359,19 @@ public final class HalfFloats {
     private int productsInPieces(int c, Format accumulator, Format answer, int way) {
         int length = Math.min(rowX.size, rowY.size);
         int total = 0;
-        for (int from = 0; from < length; from += c) {
-            int piece = 0;
-            for (int i = from; i < Math.min(from + c, length); i++) {
-                exact.begin();
-                exact.addValue(accumulator, piece, false);
-                addProductAt(i);
-                piece = rounder.rounded(exact, accumulator, way);
+        int piece = 0;
+        int inPiece = 0;
+        for (int i = 0; i < length; i++) {
+            exact.begin();
+            exact.addValue(accumulator, piece, false);
+            addProductAt(i);
+            piece = rounder.rounded(exact, accumulator, way);
+            inPiece++;
+            if (inPiece == c || i == length - 1) {
+                total = plus(accumulator, piece, answer, total, way);
+                piece = 0;
+                inPiece = 0;
             }
-            total = plus(accumulator, piece, answer, total, way);
         }
         return total;
     }
@@ -764,7 +768,8 @@ public final class HalfFloats {
             }
             if (unsigned >= m.limit) {
                 raised |= OVERFLOW | INEXACT;
-                return tooFar(negative, m, way);
+                boolean stops = m.kind == 0 && stopsShort(negative, way);
+                return stops ? m.signed(negative, m.limit - 1) : infinite(negative, m);
             }
             return m.signed(negative, (int) unsigned);
         }
@@ -796,9 +801,9 @@ public final class HalfFloats {
             }
         }
 
-        private int tooFar(boolean negative, Format m, int way) {
-            boolean stops = way == TO_ZERO || way == UPWARD && negative || way == DOWNWARD && !negative;
-            return m.kind == 0 && stops ? m.signed(negative, m.limit - 1) : infinite(negative, m);
+        /** Whether what OVERFLOWS goes no farther than the greatest value, as the WAY leads back to it. */
+        private static boolean stopsShort(boolean negative, int way) {
+            return way == TO_ZERO || way == UPWARD && negative || way == DOWNWARD && !negative;
         }
 
         private long draw() {
